@@ -82,15 +82,7 @@ public final class BraidWords {
     }
 
     public boolean round(int s, boolean back) {
-        if (!isSlot(s) || words[s].count == 0) {
-            return false;
-        }
-        if (back) {
-            words[s].lastToFront();
-        } else {
-            words[s].firstToBack();
-        }
-        return true;
+        return isSlot(s) && (back ? words[s].lastToFront() : words[s].firstToBack());
     }
 
     public boolean exchange(int s, int k) {
@@ -195,7 +187,7 @@ public final class BraidWords {
             return place >= 1 && place <= width;
         }
 
-        /** Whether there are so many letters from letter k on; the sum k + many could overflow. */
+        /** Whether there are so many letters from letter k on, written so that no k overflows. */
         boolean hasLetters(int k, int many) {
             return k >= 0 && k <= count - many;
         }
@@ -289,17 +281,24 @@ public final class BraidWords {
             System.arraycopy(letters, gone, letters, 0, count);
         }
 
-        /** There must be a letter, as for lastToFront. */
-        void firstToBack() {
+        boolean firstToBack() {
+            if (count == 0) {
+                return false;
+            }
             int first = letters[0];
             System.arraycopy(letters, 1, letters, 0, count - 1);
             letters[count - 1] = first;
+            return true;
         }
 
-        void lastToFront() {
+        boolean lastToFront() {
+            if (count == 0) {
+                return false;
+            }
             int last = letters[count - 1];
             System.arraycopy(letters, 0, letters, 1, count - 1);
             letters[0] = last;
+            return true;
         }
 
         boolean swapFar(int k) {
@@ -455,7 +454,7 @@ public final class BraidWords {
             to++;
         }
 
-        /** Only the last row is new: where nothing moves over, all rows before are as they must be. */
+        /** Only the last row is new: where nothing moves over, the rows before are as they were, and fit. */
         private void settle() {
             for (int j = to - 1; j > from; j--) {
                 if (!moveOver(rows[j - 1], rows[j])) {
