@@ -26,6 +26,10 @@ final class Model {
         return words.get(s);
     }
 
+    int[] letters(int s) {
+        return word(s).stream().mapToInt(Integer::intValue).toArray();
+    }
+
     boolean strands(int s, int n) {
         if (lacks(s) || n < 1 || n > 8) {
             return false;

@@ -4,17 +4,19 @@ import java.util.Random;
 public final class ModelTest {
     private static final int RUNS = 400;
     private static final int CALLS = 512;
+    private static final int MOST_CALLS_OF_A_FORM = 35;
     private static final int[] WILD = {Integer.MIN_VALUE, -1000, -33, -9, 9, 32, 33, 1 << 30, Integer.MAX_VALUE - 1,
         Integer.MAX_VALUE};
     private static final Random RANDOM = new Random(1729);
 
     private final BraidWords braids = new BraidWords();
     private final Model model = new Model();
+    private int made = 0;
 
     public static void main(String[] args) {
         for (int run = 0; run < RUNS; run++) {
             ModelTest test = new ModelTest();
-            for (int call = 0; call < CALLS; call++) {
+            while (test.made < CALLS) {
                 test.call(run % 4);
             }
         }
@@ -48,7 +50,9 @@ public final class ModelTest {
         return from + RANDOM.nextInt(to - from + 1);
     }
 
-    private static void due(String name, int a, int b, int got, int want) {
+    /** Every call of the braids is told here, or counted where it is made: behind the 512th, answers are free. */
+    private void due(String name, int a, int b, int got, int want) {
+        made++;
         Due.equal(name + "(" + a + ", " + b + ", ..)", got, want);
     }
 
@@ -109,7 +113,9 @@ public final class ModelTest {
                 due("end", s, p, braids.end(s, p), model.end(s, p));
                 break;
             case 13:
-                formAgreesWithEnds(s, p);
+                if (made <= CALLS - MOST_CALLS_OF_A_FORM) {
+                    formAgreesWithEnds(s, p);
+                }
                 break;
             case 14:
                 sameAsFarAsTheModelKnows(r, s);
@@ -127,26 +133,40 @@ public final class ModelTest {
             due("same", r, s, bit(got), 1);
         } else if (model.many(r, 2) != model.many(s, 2) || model.end(r, 1) != model.end(s, 1)) {
             due("same", r, s, bit(got), 0);
+        } else {
+            BraidWords fresh = fresh(r, s);
+            due("same", r, s, bit(got), bit(fresh.same(0, 1)));
         }
+    }
+
+    /** A new object, with no calls behind it, with the words of these slots. */
+    private BraidWords fresh(int r, int s) {
+        BraidWords x = new BraidWords();
+        Words.put(x, 0, model.strands(r), model.letters(r));
+        Words.put(x, 1, model.strands(s), model.letters(s));
+        return x;
     }
 
     /** The form's braids, one behind the other, must lead each strand to where the word leads it. */
     private void formAgreesWithEnds(int s, int p) {
-        int place = p;
         int size = braids.length(s);
         int power = braids.form(s, 0, p);
+        made += 2;
         Due.equal("length of " + s + " is -1", size == -1, model.lacks(s));
         if (model.lacks(s) || p < 1 || p > model.strands(s)) {
             due("form", s, 1, braids.form(s, 1, p), 0);
             return;
         }
-        if (power % 2 != 0) {
-            place = model.strands(s) + 1 - place;
-        }
+        BraidWords fresh = fresh(s, s);
+        Due.equal("length of " + s, size, fresh.length(0));
+        Due.equal("k of " + s, power, fresh.form(0, 0, 0));
+        int place = power % 2 == 0 ? p : model.strands(s) + 1 - p;
         for (int j = 1; j <= size; j++) {
-            place = braids.form(s, j, place);
+            int next = braids.form(s, j, place);
+            due("form", s, j, next, fresh.form(0, j, place));
+            place = next;
         }
-        due("ends by form", s, p, place, model.end(s, p));
+        Due.equal("ends by form of " + s + ", " + p, place, model.end(s, p));
         due("form behind the last", s, p, braids.form(s, size + 1, p), 0);
     }
 }

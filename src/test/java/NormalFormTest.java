@@ -78,7 +78,7 @@ public final class NormalFormTest {
 
     private static void checkForm(int n, int[] word) {
         BraidWords x = new BraidWords();
-        put(x, 0, n, word);
+        Words.put(x, 0, n, word);
         String name = n + " strands, " + Arrays.toString(word);
         int size = x.length(0);
         int[][] rows = new int[size + 1][n + 1];
@@ -168,8 +168,8 @@ public final class NormalFormTest {
                 int[] left = randomWord(n, RANDOM.nextInt(6), 0);
                 int[] right = randomWord(n, RANDOM.nextInt(6), 0);
                 BraidWords x = new BraidWords();
-                put(x, 1, n, left);
-                put(x, 2, n, right);
+                Words.put(x, 1, n, left);
+                Words.put(x, 2, n, right);
                 String name = n + " strands, same " + Arrays.toString(left) + Arrays.toString(right);
                 Due.equal(name, x.same(1, 2), oneBraid(n, left, right));
             }
@@ -181,7 +181,7 @@ public final class NormalFormTest {
         for (int turn = 0; turn < 600; turn++) {
             int n = 3 + turn % 6;
             BraidWords x = new BraidWords();
-            put(x, 0, n, randomWord(n, 32, turn % 3));
+            Words.put(x, 0, n, randomWord(n, 32, turn % 3));
             x.copy(1, 0, false);
             for (int move = 0; move < 100; move++) {
                 x.exchange(1, RANDOM.nextInt(32));
@@ -199,13 +199,6 @@ public final class NormalFormTest {
                 x.letter(1, 1);
                 Due.equal("same with one letter more", x.same(0, 1), false);
             }
-        }
-    }
-
-    private static void put(BraidWords x, int s, int n, int[] word) {
-        x.strands(s, n);
-        for (int l : word) {
-            x.letter(s, l);
         }
     }
 

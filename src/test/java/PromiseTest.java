@@ -1,10 +1,8 @@
-import java.util.StringJoiner;
-
 /** Each promise by written answers: ordinary inputs, the edges that the document names, wrong inputs. */
 public final class PromiseTest {
-    private static final int LEAST = Integer.MIN_VALUE;
-    private static final int MOST = Integer.MAX_VALUE;
-    private static final int[] NO_SLOTS = {-1, 4, LEAST, MOST};
+    private static final int LEAST = Words.LEAST;
+    private static final int MOST = Words.MOST;
+    private static final int[] NO_SLOTS = Words.NO_SLOTS;
 
     public static void main(String[] args) {
         newObject();
@@ -35,15 +33,8 @@ public final class PromiseTest {
 
     private static BraidWords with(int n, int... letters) {
         BraidWords x = new BraidWords();
-        put(x, 0, n, letters);
+        Words.put(x, 0, n, letters);
         return x;
-    }
-
-    private static void put(BraidWords x, int s, int n, int... letters) {
-        x.strands(s, n);
-        for (int l : letters) {
-            x.letter(s, l);
-        }
     }
 
     private static BraidWords full(int n, int l) {
@@ -54,44 +45,17 @@ public final class PromiseTest {
         return x;
     }
 
-    private static String word(BraidWords x, int s) {
-        StringJoiner text = new StringJoiner(" ", x.many(s, 0) + ":", "");
-        for (int k = 0; k < x.many(s, 1); k++) {
-            text.add(String.valueOf(x.at(s, k)));
-        }
-        return text.toString();
-    }
-
     private static void wordIs(String what, BraidWords x, String want) {
-        Due.equal(what, word(x, 0), want);
-    }
-
-    private static String normalForm(BraidWords x, int s) {
-        StringBuilder text = new StringBuilder().append(x.form(s, 0, 0));
-        for (int j = 1; j <= x.length(s); j++) {
-            text.append(' ');
-            for (int p = 1; p <= x.many(s, 0); p++) {
-                text.append(x.form(s, j, p));
-            }
-        }
-        return text.toString();
-    }
-
-    private static String labels(BraidWords x, int k) {
-        StringJoiner text = new StringJoiner(" ");
-        for (int what = 0; what <= 4; what++) {
-            text.add(String.valueOf(x.crossing(0, k, what)));
-        }
-        return text.toString();
+        Due.equal(what, Words.word(x, 0), want);
     }
 
     private static void newObject() {
         BraidWords x = new BraidWords();
         for (int s = 0; s < 4; s++) {
-            Due.equal("new: word of " + s, word(x, s), "1:");
+            Due.equal("new: word of " + s, Words.word(x, s), "1:");
             Due.equal("new: circles of " + s, x.many(s, 4), 1);
             Due.equal("new: components of " + s, x.many(s, 3), 1);
-            Due.equal("new: form of " + s, normalForm(x, s), "0");
+            Due.equal("new: form of " + s, Words.normalForm(x, s), "0");
             Due.equal("new: end of " + s, x.end(s, 1), 1);
             Due.equal("new: same as 0 " + s, x.same(0, s), true);
         }
@@ -140,11 +104,11 @@ public final class PromiseTest {
 
     private static void copy() {
         BraidWords x = with(4, 1, -2, 3);
-        put(x, 1, 2, 1, 1, 1, 1, 1);
+        Words.put(x, 1, 2, 1, 1, 1, 1, 1);
         Due.equal("copy(1, 0, false)", x.copy(1, 0, false), true);
-        Due.equal("copied", word(x, 1), "4:1 -2 3");
+        Due.equal("copied", Words.word(x, 1), "4:1 -2 3");
         Due.equal("copy(2, 0, true)", x.copy(2, 0, true), true);
-        Due.equal("inverse", word(x, 2), "4:-3 2 -1");
+        Due.equal("inverse", Words.word(x, 2), "4:-3 2 -1");
         wordIs("the copied one stays", x, "4:1 -2 3");
         for (int s : NO_SLOTS) {
             Due.equal("copy from none", x.copy(0, s, false), false);
@@ -304,7 +268,7 @@ public final class PromiseTest {
         x.copy(1, 0, false);
         Due.equal("round 32", x.round(0, false), true);
         Due.equal("round 32 back", x.round(0, true), true);
-        Due.equal("letters stay 32", word(x, 0), word(x, 1));
+        Due.equal("letters stay 32", Words.word(x, 0), Words.word(x, 1));
     }
 
     private static void exchange() {
@@ -359,10 +323,10 @@ public final class PromiseTest {
                         BraidWords x = with(5, a * 3, b * j, c * 3);
                         x.copy(1, 0, false);
                         boolean may = a != c || a == b;
-                        String what = "pass " + word(x, 0);
+                        String what = "pass " + Words.word(x, 0);
                         Due.equal(what, x.pass(0, 0), may);
                         String passed = "5:" + c * j + " " + b * 3 + " " + a * j;
-                        wordIs(what, x, may ? passed : word(x, 1));
+                        wordIs(what, x, may ? passed : Words.word(x, 1));
                         Due.equal(what + " is one braid", x.same(0, 1), true);
                     }
                 }
@@ -427,56 +391,56 @@ public final class PromiseTest {
 
     private static void same() {
         BraidWords x = with(4, 1, 2, 1, 3);
-        put(x, 1, 4, 2, 1, 3, -1, 1, 2, -3, 3);
+        Words.put(x, 1, 4, 2, 1, 3, -1, 1, 2, -3, 3);
         Due.equal("different", x.same(0, 1), false);
-        put(x, 1, 4, 2, 1, 2, -1, 1, 3);
+        Words.put(x, 1, 4, 2, 1, 2, -1, 1, 3);
         Due.equal("one braid", x.same(0, 1), true);
         Due.equal("one braid, other way", x.same(1, 0), true);
         Due.equal("itself", x.same(0, 0), true);
-        put(x, 1, 5, 1, 2, 1, 3);
+        Words.put(x, 1, 5, 1, 2, 1, 3);
         Due.equal("other strands", x.same(0, 1), false);
-        put(x, 2, 2);
-        put(x, 3, 3);
+        Words.put(x, 2, 2);
+        Words.put(x, 3, 3);
         Due.equal("no letters, other strands", x.same(2, 3), false);
         for (int s : NO_SLOTS) {
             Due.equal("same, no slot left", x.same(s, 0), false);
             Due.equal("same, no slot right", x.same(0, s), false);
             Due.equal("same, no slots", x.same(s, s), false);
         }
-        put(x, 0, 2, 1);
-        put(x, 1, 2, -1);
+        Words.put(x, 0, 2, 1);
+        Words.put(x, 1, 2, -1);
         Due.equal("the permutation alone is not enough", x.same(0, 1), false);
-        put(x, 0, 3, 1, -2, 1, -2);
-        put(x, 1, 3, -2, 1, -2, 1);
+        Words.put(x, 0, 3, 1, -2, 1, -2);
+        Words.put(x, 1, 3, -2, 1, -2, 1);
         Due.equal("as many signs alone are not enough", x.same(0, 1), false);
-        put(x, 0, 3, 1, 2, 1, 2, 1, 2, 1);
-        put(x, 1, 3, 1, 1, 2, 1, 2, 1, 2);
+        Words.put(x, 0, 3, 1, 2, 1, 2, 1, 2, 1);
+        Words.put(x, 1, 3, 1, 1, 2, 1, 2, 1, 2);
         Due.equal("a full turn goes anywhere", x.same(0, 1), true);
     }
 
     private static void form() {
         BraidWords x = with(3, 1, 1);
-        Due.equal("form of 1 1", normalForm(x, 0), "0 213 213");
-        put(x, 0, 3, -1);
-        Due.equal("form of -1", normalForm(x, 0), "-1 312");
-        put(x, 0, 3, -2);
-        Due.equal("form of -2", normalForm(x, 0), "-1 231");
-        put(x, 0, 3, 1, 2);
-        Due.equal("form of 1 2", normalForm(x, 0), "0 312");
-        put(x, 0, 3, 2, 1, 2, 1);
-        Due.equal("form of TURN 1", normalForm(x, 0), "1 213");
-        put(x, 0, 3, 1, 2, 1, 2);
-        Due.equal("form of TURN 2", normalForm(x, 0), "1 132");
-        put(x, 0, 3, 1, -2);
-        Due.equal("form of 1 -2", normalForm(x, 0), "-1 132 231");
-        put(x, 0, 2, 1, 1, 1);
-        Due.equal("2 strands have TURNs alone", normalForm(x, 0), "3");
-        put(x, 0, 2, -1);
-        Due.equal("2 strands back", normalForm(x, 0), "-1");
+        Due.equal("form of 1 1", Words.normalForm(x, 0), "0 213 213");
+        Words.put(x, 0, 3, -1);
+        Due.equal("form of -1", Words.normalForm(x, 0), "-1 312");
+        Words.put(x, 0, 3, -2);
+        Due.equal("form of -2", Words.normalForm(x, 0), "-1 231");
+        Words.put(x, 0, 3, 1, 2);
+        Due.equal("form of 1 2", Words.normalForm(x, 0), "0 312");
+        Words.put(x, 0, 3, 2, 1, 2, 1);
+        Due.equal("form of TURN 1", Words.normalForm(x, 0), "1 213");
+        Words.put(x, 0, 3, 1, 2, 1, 2);
+        Due.equal("form of TURN 2", Words.normalForm(x, 0), "1 132");
+        Words.put(x, 0, 3, 1, -2);
+        Due.equal("form of 1 -2", Words.normalForm(x, 0), "-1 132 231");
+        Words.put(x, 0, 2, 1, 1, 1);
+        Due.equal("2 strands have TURNs alone", Words.normalForm(x, 0), "3");
+        Words.put(x, 0, 2, -1);
+        Due.equal("2 strands back", Words.normalForm(x, 0), "-1");
         Due.equal("p is not looked at", x.form(0, 0, LEAST), -1);
         Due.equal("p is not looked at", x.form(0, 0, 99), -1);
-        put(x, 0, 4, 1, 3, 2, 2);
-        Due.equal("form of 1 3 2 2", normalForm(x, 0), "0 3142 1324");
+        Words.put(x, 0, 4, 1, 3, 2, 2);
+        Due.equal("form of 1 3 2 2", Words.normalForm(x, 0), "0 3142 1324");
         for (int j : new int[] {-1, 3, LEAST, MOST}) {
             Due.equal("form of no S " + j, x.form(0, j, 1), 0);
         }
@@ -489,7 +453,7 @@ public final class PromiseTest {
         }
         Due.equal("form with 1 strand", x.form(1, 1, 1), 0);
         Due.equal("k with 1 strand", x.form(1, 0, 1), 0);
-        Due.equal("32 letters, 2 strands", normalForm(full(2, -1), 0), "-32");
+        Due.equal("32 letters, 2 strands", Words.normalForm(full(2, -1), 0), "-32");
         Due.equal("32 letters, 8 strands", full(8, 4).form(0, 32, 4), 5);
         Due.equal("32 letters back, 8 strands", full(8, -4).form(0, 0, 0), -32);
         Due.equal("32 letters back, 8 strands", full(8, -4).form(0, 32, 1), 8);
@@ -497,23 +461,23 @@ public final class PromiseTest {
 
     private static void formFollowsTheWord() {
         BraidWords x = with(4, 1, 2);
-        Due.equal("form", normalForm(x, 0), "0 3124");
+        Due.equal("form", Words.normalForm(x, 0), "0 3124");
         x.round(0, false);
-        Due.equal("form after round", normalForm(x, 0), "0 2314");
+        Due.equal("form after round", Words.normalForm(x, 0), "0 2314");
         x.letter(0, 2);
         x.pass(0, 0);
-        Due.equal("form after pass", normalForm(x, 0), "0 3214");
+        Due.equal("form after pass", Words.normalForm(x, 0), "0 3214");
         x.letter(0, -1);
         x.reduce(0, false);
-        Due.equal("form after reduce", normalForm(x, 0), "0 3124");
+        Due.equal("form after reduce", Words.normalForm(x, 0), "0 3124");
         x.copy(0, 0, true);
-        Due.equal("form after copy", normalForm(x, 0), "-1 4132");
+        Due.equal("form after copy", Words.normalForm(x, 0), "-1 4132");
         x.strands(0, 2);
-        Due.equal("form after strands", normalForm(x, 0), "0");
+        Due.equal("form after strands", Words.normalForm(x, 0), "0");
         x.grow(0, 1);
-        Due.equal("form after grow", normalForm(x, 0), "0 132");
+        Due.equal("form after grow", Words.normalForm(x, 0), "0 132");
         x.shrink(0);
-        Due.equal("form after shrink", normalForm(x, 0), "0");
+        Due.equal("form after shrink", Words.normalForm(x, 0), "0");
         Due.equal("a form of other strands is another", x.same(0, 1), false);
     }
 
@@ -532,12 +496,12 @@ public final class PromiseTest {
 
     private static void crossing() {
         BraidWords x = with(3, 1, -2, 1, -2);
-        Due.equal("crossing 0", labels(x, 0), "1 4 5 2 1");
-        Due.equal("crossing 1", labels(x, 1), "3 5 6 7 -1");
-        Due.equal("crossing 2", labels(x, 2), "4 1 9 6 1");
-        Due.equal("crossing 3", labels(x, 3), "7 9 2 3 -1");
+        Due.equal("crossing 0", Words.labels(x, 0, 0), "1 4 5 2 1");
+        Due.equal("crossing 1", Words.labels(x, 0, 1), "3 5 6 7 -1");
+        Due.equal("crossing 2", Words.labels(x, 0, 2), "4 1 9 6 1");
+        Due.equal("crossing 3", Words.labels(x, 0, 3), "7 9 2 3 -1");
         for (int k : new int[] {-1, 4, 31, 32, LEAST, MOST}) {
-            Due.equal("crossing " + k, labels(x, k), "0 0 0 0 0");
+            Due.equal("crossing " + k, Words.labels(x, 0, k), "0 0 0 0 0");
         }
         for (int what : new int[] {-1, 5, LEAST, MOST}) {
             Due.equal("crossing what " + what, x.crossing(0, 0, what), 0);
@@ -549,30 +513,30 @@ public final class PromiseTest {
         }
         Due.equal("crossing of no letters", x.crossing(1, 0, 4), 0);
         x = full(8, 7);
-        Due.equal("the first of 32", labels(x, 0), "7 9 10 8 1");
-        Due.equal("the last of 32", labels(x, 31), "69 7 8 70 1");
+        Due.equal("the first of 32", Words.labels(x, 0, 0), "7 9 10 8 1");
+        Due.equal("the last of 32", Words.labels(x, 0, 31), "69 7 8 70 1");
     }
 
     private static void crossingOfOneLetter() {
-        Due.equal("one letter", labels(with(2, 1), 0), "1 1 2 2 1");
-        Due.equal("one letter back", labels(with(2, -1), 0), "2 1 1 2 -1");
-        Due.equal("one letter among circles", labels(with(5, 3), 0), "3 3 4 4 1");
-        Due.equal("labels count on over other places", labels(with(5, 1, 4), 1), "4 4 5 5 1");
-        Due.equal("labels of the second letter", labels(with(5, 1, -4, 4), 1), "5 4 8 9 -1");
+        Due.equal("one letter", Words.labels(with(2, 1), 0, 0), "1 1 2 2 1");
+        Due.equal("one letter back", Words.labels(with(2, -1), 0, 0), "2 1 1 2 -1");
+        Due.equal("one letter among circles", Words.labels(with(5, 3), 0, 0), "3 3 4 4 1");
+        Due.equal("labels count on over other places", Words.labels(with(5, 1, 4), 0, 1), "4 4 5 5 1");
+        Due.equal("labels of the second letter", Words.labels(with(5, 1, -4, 4), 0, 1), "5 4 8 9 -1");
     }
 
     private static void slotsAreApart() {
         BraidWords x = new BraidWords();
         for (int s = 0; s < 4; s++) {
-            put(x, s, s + 2, s + 1, -s - 1, s + 1);
+            Words.put(x, s, s + 2, s + 1, -s - 1, s + 1);
         }
         x.reduce(1, false);
         x.strands(2, 8);
-        Due.equal("slot 0", word(x, 0), "2:1 -1 1");
-        Due.equal("slot 1", word(x, 1), "3:2");
-        Due.equal("slot 2", word(x, 2), "8:");
-        Due.equal("slot 3", word(x, 3), "5:4 -4 4");
+        Due.equal("slot 0", Words.word(x, 0), "2:1 -1 1");
+        Due.equal("slot 1", Words.word(x, 1), "3:2");
+        Due.equal("slot 2", Words.word(x, 2), "8:");
+        Due.equal("slot 3", Words.word(x, 3), "5:4 -4 4");
         BraidWords y = new BraidWords();
-        Due.equal("another object", word(y, 0), "1:");
+        Due.equal("another object", Words.word(y, 0), "1:");
     }
 }
