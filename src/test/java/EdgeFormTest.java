@@ -78,6 +78,7 @@ public final class EdgeFormTest {
         sameIs("2:1", "3:1 2 1", false);
     }
 
+    /** Promise 14: "Whether the words of two slots .. are one braid", when there are no letters. */
     private static void sameOfNoLetters() {
         for (int n = 1; n <= 8; n++) {
             sameIs(n + ":", n + ":", true);
@@ -126,6 +127,7 @@ public final class EdgeFormTest {
         sameIs("4:1 3 1", "4:3 1 3", false);
     }
 
+    /** Terms: "(In between there may be any number of letters.)", up to 32. */
     private static void sameOf32Letters() {
         sameIs(Words.row(2, 32, 1, -1), "2:", true);
         sameIs(Words.row(8, 32, 7, -7), "8:", true);
@@ -229,6 +231,7 @@ public final class EdgeFormTest {
         formAt("2:1", 1, 1, 0);
     }
 
+    /** Terms: "S1, .., Sm, none of them TURN or NONE": a braid in which nothing crosses has none. */
     private static void formOfNoLetters() {
         for (int n = 1; n <= 8; n++) {
             formIs(n + ":", "0");
@@ -257,6 +260,7 @@ public final class EdgeFormTest {
         formIs("8:-1 " + TURN_8.substring("8:".length()), "0 78654321");
     }
 
+    /** Promise 15: "of Sj what p becomes; 0 when there is no such .. Sj", when there are the most of them. */
     private static void formOf32Letters() {
         for (int p = 1; p <= 8; p++) {
             formAt(Words.row(8, 32, 1), 1, p, p < 3 ? 3 - p : p);
@@ -332,6 +336,7 @@ public final class EdgeFormTest {
         lengthIs("8:1 3 5 7", 1);
     }
 
+    /** Promise 16: "How many simple braids the normal form has": never more than letters. */
     private static void lengthOfTheMost() {
         for (int n = 3; n <= 8; n++) {
             lengthIs(Words.row(n, 32, 1), 32);
@@ -371,6 +376,7 @@ public final class EdgeFormTest {
         crossingIs("8:1 -7 1 7", 3, "11 7 8 12 1");
     }
 
+    /** Promise 17: "Of the closure's crossing k (from 0 on, as its letters come)", the first and the last. */
     private static void crossingOf32Letters() {
         crossingIs(Words.row(8, 32, 7), 0, "7 9 10 8 1");
         crossingIs(Words.row(8, 32, 7), 30, "67 69 70 68 1");

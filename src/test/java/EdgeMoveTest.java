@@ -46,6 +46,7 @@ public final class EdgeMoveTest {
         reduces(word, true, gone, left);
     }
 
+    /** Promise 8: "how many letters went", when there are none. */
     private static void reduceNoLetters() {
         for (int n = 1; n <= 8; n++) {
             reducesBothWays(n + ":", 0, n + ":");
@@ -113,6 +114,7 @@ public final class EdgeMoveTest {
         }
     }
 
+    /** Promise 8: "What is left keeps its order", when one end has more to go than the other. */
     private static void reduceOddOnesInTheMiddle() {
         reduces("3:1 1 2 -1", true, 2, "3:1 2");
         reduces("3:1 2 -1 -1", true, 2, "3:2 -1");
@@ -169,6 +171,7 @@ public final class EdgeMoveTest {
         Edge.does("round", "2:1 -1", (x, s) -> x.round(s, false), true, "2:-1 1");
     }
 
+    /** Promise 9: "The first letter becomes the last one .. , or the last one the first", with 32 letters. */
     private static void round32Letters() {
         String row = Words.row(8, 30, 1, 2, 3, 4, 5);
         String word = Words.plain(row + " -6 -7");
@@ -210,6 +213,7 @@ public final class EdgeMoveTest {
             && x.exchange(s, 1), false, "8:1 5");
     }
 
+    /** Promise 10: "Letters k and k + 1 are exchanged: true", for the least and the greatest k. */
     private static void exchangeTheFirstAndTheLastTwo() {
         exchanges("8:1 7", 0, "8:7 1");
         exchanges("8:1 7 2", 0, "8:7 1 2");
@@ -269,6 +273,7 @@ public final class EdgeMoveTest {
             && x.pass(s, 0), false, "3:2 1");
     }
 
+    /** Promise 11: "become c j, b i, a j: true", for the least and the greatest k. */
     private static void passTheFirstAndTheLastThree() {
         passes("3:1 2 1", 0, "3:2 1 2");
         passes("8:7 6 7", 0, "8:6 7 6");
@@ -376,6 +381,7 @@ public final class EdgeMoveTest {
         }
     }
 
+    /** Promise 13: "when that letter crosses it .. and no other one does", with 31 other ones. */
     private static void shrink32Letters() {
         String most = Words.plain("8:" + " 6 -1".repeat(15) + " 6 7");
         Edge.does("shrink", most, (x, s) -> x.shrink(s), true, Words.plain("7:" + " 6 -1".repeat(15) + " 6"));

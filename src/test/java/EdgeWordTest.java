@@ -65,6 +65,7 @@ public final class EdgeWordTest {
         }
     }
 
+    /** Promise 1: "Four slots with one strand and no letters", whatever other objects hold. */
     private static void newObjectsAreApart() {
         BraidWords x = new BraidWords();
         BraidWords y = new BraidWords();
@@ -175,6 +176,7 @@ public final class EdgeWordTest {
         Due.equal(what + ", the copied one", Words.word(x, 3), from);
     }
 
+    /** Promise 4: "Slot r gets what slot s has (back false), or the word of its inverse", with 32 letters. */
     private static void copyOf32Letters() {
         BraidWords x = new BraidWords();
         Words.put(x, 3, Words.row(8, 32, 1, 2, -7));
@@ -324,6 +326,7 @@ public final class EdgeWordTest {
         Edge.does("end of a strand that went", "3:1 2", (x, s) -> x.shrink(s) ? x.end(s, 3) : -1, 0, "2:1");
     }
 
+    /** Promise 7: "Where the strand ends that begins at place p", when there is only one. */
     private static void endWithOneStrand() {
         Edge.answers("end 1", "1:", (x, s) -> x.end(s, 1), 1);
         Edge.does("end of a strand that came", "1:", (x, s) -> x.grow(s, 1) ? x.end(s, 2) : -1, 1, "2:1");
